@@ -1372,11 +1372,11 @@ public final class LitmusHouse {
         long threads = 0L;
         long cells = 0L;
         long earlier = 0L;
+        int order = SEQUENTIAL;
         private final int[] writes = new int[ACTION_LIMIT];
         private final int[] unlocks = new int[MONITOR_NAMES];
         private final int[] own = new int[THREAD_LIMIT];
         private Code code = new Code();
-        private int order = SEQUENTIAL;
         private int volatiles = 0;
 
         /** volatileCells: as bits, those that count as volatile. */
