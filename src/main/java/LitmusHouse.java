@@ -1261,8 +1261,10 @@ public final class LitmusHouse {
             if (size >= row.length && row.length < ROOM_LIMIT) {
                 row = Arrays.copyOf(row, 2 * row.length);
             }
-            if (at <= size && size < row.length) {
-                System.arraycopy(row, at, row, at + 1, size - at);
+            if (size < row.length) {
+                for (int i = size; i > at; i--) {
+                    row[i] = row[i - 1];
+                }
                 row[at] = outcome;
                 size++;
             }

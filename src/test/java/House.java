@@ -66,14 +66,26 @@ final class House {
         return text.toString();
     }
 
+    /** The answer, or which exception the class threw; one that the machine threw is told as it is. */
     static int thrown(Call call) {
         try {
             return call.answer();
         } catch (IndexOutOfBoundsException e) {
-            return OUT_OF_BOUNDS;
+            return e.getClass() == IndexOutOfBoundsException.class && fromHouse(e) ? OUT_OF_BOUNDS : fail(e);
         } catch (NoSuchElementException e) {
-            return NO_SUCH_ELEMENT;
+            return e.getClass() == NoSuchElementException.class && fromHouse(e) ? NO_SUCH_ELEMENT : fail(e);
+        } catch (RuntimeException e) {
+            return fail(e);
         }
+    }
+
+    private static boolean fromHouse(RuntimeException e) {
+        return e.getStackTrace().length > 0 && e.getStackTrace()[0].getClassName().startsWith("LitmusHouse");
+    }
+
+    private static int fail(RuntimeException e) {
+        e.printStackTrace(System.out);
+        return Integer.MIN_VALUE;
     }
 
     static void due(String what, Object got, Object want) {

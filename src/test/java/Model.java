@@ -35,6 +35,7 @@ final class Model {
 
     static final class Statement {
         String kind;
+        int place;
         int thread;
         int number = -1;
         char cell = '?';
@@ -207,6 +208,7 @@ final class Model {
         Statement s = new Statement();
         s.thread = threads.size() - 1;
         int first = place();
+        s.place = first;
         String word = peek();
         if (word.matches("r[0-4]")) {
             s.target = local();
@@ -615,7 +617,7 @@ final class Model {
         StringBuilder key = new StringBuilder();
         for (int t = 0; t < threads.size(); t++) {
             for (Statement s : run.left.get(t)) {
-                key.append(System.identityHashCode(s)).append(',');
+                key.append(s.place).append(',');
             }
             key.append('|');
             for (int[] one : run.queues.get(t)) {

@@ -7,6 +7,7 @@ import java.lang.management.ManagementFactory;
  */
 public final class RoomTest {
     private static final long ROOM = 9_000_000L;
+    private static long most = 0L;
     private static final String[] DEAR = {
         "plain u;thread{r0=u;r1=u;}thread{u=4;u=6;}thread{u=2;u=7;}thread{r4=u;r4=u;}",
         "plain u v;thread{v=r0+9;r0=u;}thread{u=2;r2=v;}thread{u=3;r3=v;}thread{v=6;r4=u;}",
@@ -24,6 +25,7 @@ public final class RoomTest {
         }
         room("faults", "thread{", 3);
         room("new objects", "thread{}", 4);
+        System.out.println("the dearest run took " + most + " bytes");
         House.close("room");
     }
 
@@ -37,6 +39,7 @@ public final class RoomTest {
             call(house, n, what);
         }
         long used = bean.getThreadAllocatedBytes(id) - start;
+        most = Math.max(most, used);
         House.due("room for " + name + " (" + used + " bytes)", used < ROOM, true);
     }
 
