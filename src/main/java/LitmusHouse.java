@@ -704,7 +704,7 @@ public final class LitmusHouse {
         private int thread = 0;
         private int held = 0;
         private int nesting = 0;
-        // What readSum() has read: E's LOCAL and DIGIT.
+        // What readTerm() and readPlus() have read: E's LOCAL and DIGIT.
         private int sumBase = NONE;
         private int sumDigit = NONE;
 
@@ -741,14 +741,12 @@ public final class LitmusHouse {
         }
 
         private boolean refuseToken() {
-            faultKind = 1;
-            faultPlace = scanner.place;
-            return false;
+            return refuse(1, scanner.place);
         }
 
         private boolean pass(int token) {
             if (scanner.token != token) {
-                return refuseToken();
+                return refuse(1, scanner.place);
             }
             scanner.advance();
             return true;
@@ -1759,9 +1757,9 @@ public final class LitmusHouse {
             }
         }
 
-        /** A thread whose ACTION needs no other STEPS beside it; a WITNESS and RACES want every row of STEPS. */
+        /** A thread whose ACTION needs no other STEPS beside it; a WITNESS wants every row of STEPS. */
         private int hurryingThread() {
-            if (goal == WITNESS || goal == RACES) {
+            if (goal == WITNESS) {
                 return NONE;
             }
             for (int t = 0; t < program.code.threads; t++) {
@@ -1812,7 +1810,7 @@ public final class LitmusHouse {
                     }
                     break;
                 case COMPARE:
-                    stopped = due != null && !Outcomes.holds(due, outcome);
+                    stopped = stopped || due != null && !Outcomes.holds(due, outcome);
                     break;
                 case WITNESS:
                     if (depth < shortest && wishes != null && Outcomes.meets(outcome, wishes)) {
@@ -1952,7 +1950,7 @@ public final class LitmusHouse {
                 there[from] = to;
                 back[to] = from;
             }
-            return there[from] == to && back[to] == from;
+            return there[from] == to;
         }
     }
 }

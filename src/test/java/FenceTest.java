@@ -22,6 +22,8 @@ public final class FenceTest {
         fence("volatile x;plain y;thread{x=1;r0=y;}thread{y=1;r1=x;}", 16, 16);
         // Either cell does for the loose order: the least number.
         fence("plain x y;thread{x=1;y=1;}thread{r0=y;r1=x;}", 0, 8);
+        // u and v do, too, and are the lesser number; but z is one cell alone.
+        fence("plain u v z;thread{u=1;v=1;z=1;}thread{r0=z;r1=u;r2=v;}", 0, 32);
         fence("plain x;thread{x=1;}thread{r0=x;r1=x;}", 0, 8);
         fence("plain x;thread{lock m0;x=1;unlock m0;}thread{lock m0;r0=x;unlock m0;}", 0, 0);
         fence("thread{}", 0, 0);
