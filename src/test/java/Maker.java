@@ -150,6 +150,27 @@ final class Maker {
         return text + String.join("", threads);
     }
 
+    /** Two or three threads that crowd on one plain cell, with something volatile or a MONITOR between. */
+    String crowded(int threads) {
+        StringBuilder text = new StringBuilder("plain x;volatile v;");
+        int left = 8;
+        for (int t = 0; t < threads; t++) {
+            locals = new ArrayList<>(threads == 2 ? List.of(2 * t, 2 * t + 1) : List.of(t));
+            text.append("thread{");
+            boolean locked = false;
+            for (int n = 0; n < (threads == 2 ? 4 : 3) && left > 0; n++) {
+                String[] some = {"x=" + (left + 1) + ";", "x=" + (left + 1) + ";", local() + "=x;", local() + "=v;", "v=1;",
+                    locked ? "unlock m0;" : "lock m0;"};
+                String part = some[pick(some.length)];
+                locked = part.contains("lock") ? !locked : locked;
+                text.append(part);
+                left--;
+            }
+            text.append('}');
+        }
+        return text.toString();
+    }
+
     /** The text with a TOKEN or two changed, left out, twice, or a few signs spoilt. */
     String spoilt(String text) {
         String changed = text;

@@ -18,7 +18,8 @@ public final class ModelTest {
         for (int i = 0; i < programs; i++) {
             Maker maker = new Maker(seed * 7919 + i);
             boolean publishes = i % 5 == 0;
-            String text = publishes ? maker.publishing(1 + i % 3) : maker.program(1 + i % 4, 2 + i / 4 % 7);
+            String text = publishes ? maker.publishing(1 + i % 3)
+                : i % 5 < 3 ? maker.program(1 + i % 4, 2 + i / 4 % 7) : maker.crowded(2 + i % 2);
             try {
                 runs(text, new Random(i));
             } catch (Model.TooLong e) {

@@ -94,6 +94,28 @@ final class StepEdges {
         each("thread{lock m0;r0=1;}thread{lock m1;r1=1;}", "11000/0");
         each("thread{lock m1;}thread{lock m0;lock m1;r0=1;}thread{lock m0;r1=1;}", "00000/6 01000/2 10000/5");
         each("thread{lock m0;}thread{lock m0;}thread{lock m0;}thread{lock m0;}", "00000/7 00000/11 00000/13 00000/14");
+        for (int t = 0; t < 4; t++) {
+            // Each thread in turn gives back what the others wait for; what it keeps, it keeps.
+            String own = "thread{lock m0;lock m1;unlock m";
+            String other = "thread{lock m";
+            for (int m = 0; m < 2; m++) {
+                String waits = "thread{}".repeat(t) + own + m + ";r0=1;}" + "thread{}".repeat(3 - t);
+                int next = (t + 1) % 4;
+                String text = replaceThread(waits, next, other + m + ";r1=1;}");
+                each(text, "01000/" + (1 << t) + " 11000/0");
+                String kept = replaceThread(waits, next, other + (1 - m) + ";r1=1;}");
+                each(kept, "01000/" + (1 << t) + " 10000/" + (1 << next));
+            }
+        }
+    }
+
+    /** The text's empty thread t is another one. */
+    private static String replaceThread(String text, int t, String thread) {
+        int at = 0;
+        for (int n = 0; n < t; n++) {
+            at = text.indexOf("thread", at + 1);
+        }
+        return text.substring(0, at) + thread + text.substring(at + "thread{}".length());
     }
 
     private static void throughZero() {
@@ -237,6 +259,12 @@ final class StepEdges {
         Edge.outcomes("final z;plain x;thread{z=5;done;}thread{x=1;}thread{r0=x;r1=r0.z;}", 2, "00000/4 10000/0 15000/0");
         Edge.outcomes("final z;volatile x;thread{z=5;done;x=1;}thread{r0=x;r1=r0.z;}", 2, "00000/2 15000/0");
         Edge.outcomes("final z;plain x;thread{z=5;done;if r4==0{x=1;}}thread{r0=x;r1=r0.z;}", 2, "00000/2 15000/0");
+        // done as the first ACTION of all, and as the last one's.
+        LitmusHouse first = House.fresh("final z;plain x;thread{done;x=1;}thread{r0=x;r1=r0.z;}", "final z;plain x;thread{r0=x;r1=r0.z;}thread{done;x=1;}");
+        Edge.due("before(0, 0, 3)", first.before(0, 0, 3), 1);
+        Edge.due("before(0, 1, 3)", first.before(0, 1, 3), 3);
+        Edge.due("before(1, 2, 1)", first.before(1, 2, 1), 1);
+        Edge.due("before(1, 3, 1)", first.before(1, 3, 1), 3);
     }
 
     private static void latestVolatile() {
@@ -257,6 +285,9 @@ final class StepEdges {
         Edge.outcomes("plain x y;thread{x=1;y=2;r0=x;}", 2, "10000/0");
         Edge.outcomes("final z;thread{z=1;z=2;r0=1;r1=r0.z;r2=z;}", 2, "12200/0");
         Edge.outcomes("plain x;thread{lock m0;x=1;unlock m0;}thread{lock m0;x=2;r0=x;unlock m0;}", 2, "20000/0");
+        // Two threads' WRITES hide what each of them was behind.
+        Edge.outcomes("plain x;volatile v;thread{x=1;x=2;v=1;}thread{x=3;x=4;r0=v;r1=x;}", 2, "01000/0 02000/0 04000/0 12000/0 14000/0");
+        Edge.outcomes("plain x;volatile v;thread{x=3;x=4;r0=v;r1=x;}thread{x=1;x=2;v=1;}", 2, "01000/0 02000/0 04000/0 12000/0 14000/0");
     }
 
     private static void zeroHidden() {

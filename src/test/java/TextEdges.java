@@ -65,6 +65,8 @@ final class TextEdges {
         Edge.fault(1, "|" + ";".repeat(1000));
         Edge.fault(1, "thread{|" + "{".repeat(993));
         Edge.fault(7, blanks + "|");
+        Edge.fault(1, blanks.substring(0, 999) + "|!");
+        Edge.fault(1, blanks.substring(0, 994) + "thread|");
     }
 
     private static void blanks() {
