@@ -9,6 +9,8 @@ final class StepEdges {
 
     static void all() {
         zeroAtFirst();
+        stepsAreActions();
+        runsEnd();
         atOnce();
         asTheRunBegins();
         moduloTen();
@@ -27,6 +29,7 @@ final class StepEdges {
         volatileSeen();
         doneBefore();
         latestVolatile();
+        anyWrite();
         hidden();
         zeroHidden();
         eachOnce();
@@ -50,6 +53,23 @@ final class StepEdges {
         each("plain u;volatile v;final w;thread{r0=u;r1=v;r2=w;r3=r4;}", "00000/0");
         each("thread{lock m0;lock m1;r0=1;}", "10000/0");
         each("thread{if r3==0{r0=1;}}", "10000/0");
+    }
+
+    private static void stepsAreActions() {
+        Edge.about("II", "Threads do STEPS, each one ACTION;");
+        for (int n = 0; n <= 8; n++) {
+            LitmusHouse house = House.fresh("thread{r0=1;" + "lock m0;r0=2;unlock m0;".repeat(n / 2) + "done;".repeat(n % 2) + "}");
+            Edge.due("STEPS of " + n + " ACTIONS", house.witness(0), n);
+        }
+    }
+
+    private static void runsEnd() {
+        Edge.about("II", "The run ends when no thread can do a STEP.");
+        // No run is over while another thread than the one that waits can go on.
+        LitmusHouse house = House.fresh("plain x;thread{lock m0;}thread{lock m0;}thread{x=1;x=2;r0=x;}", "final z;thread{r0=r1.z;}thread{done;}");
+        Edge.due("STEPS of a run that leaves one waiting", RunEdges.witness(house, 0), "0222");
+        Edge.due("STEPS of one that waits from the beginning", RunEdges.witness(house, 1), "1");
+        each("plain x;thread{lock m0;}thread{lock m0;}thread{x=1;r0=x;}", "10000/1 10000/2");
     }
 
     private static void atOnce() {
@@ -273,6 +293,17 @@ final class StepEdges {
         Edge.outcomes("volatile v;thread{v=1;v=2;}thread{r0=v;r1=v;}", 2, "00000/0 01000/0 02000/0 11000/0 12000/0 22000/0");
         Edge.outcomes("volatile v;thread{v=1;r0=v;}thread{v=2;}", 2, "10000/0 20000/0");
         Edge.outcomes("plain u;volatile v;thread{u=3;r0=v;}", 2, "00000/0");
+    }
+
+    private static void anyWrite() {
+        Edge.about("II", "A READ of another cell (THROUGH, too) sees any WRITE of it that was done, or the 0 at first, that is not HIDDEN:");
+        Edge.outcomes("plain x;thread{x=1;x=2;x=3;}thread{r0=x;}", 2, "00000/0 10000/0 20000/0 30000/0");
+        Edge.outcomes("final x;thread{x=1;x=2;}thread{r0=1;r1=r0.x;r2=x;}", 2,
+            "10000/0 10100/0 10200/0 11000/0 11100/0 11200/0 12000/0 12100/0 12200/0");
+        // One that is not done yet is seen by nobody: not by its own thread, and not in a ring.
+        Edge.outcomes("plain x;thread{r0=x;x=1;}", 2, "00000/0");
+        Edge.outcomes("plain x y;thread{r0=y;x=1;}thread{r1=x;y=1;}", 2, "00000/0 01000/0 10000/0");
+        Edge.outcomes("plain x;thread{if r0==1{x=1;}}thread{r1=x;}", 2, "00000/0");
     }
 
     private static void hidden() {
